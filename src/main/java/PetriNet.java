@@ -174,7 +174,7 @@ public final class PetriNet {
     }
 
     public int moveToMarking(int number) throws NoSuchElementException {
-        checkMarking(number);
+        checkMarking(number, explored().count);
         beginChange();
         net.unpackMarking(exploration.keys[number]);
         return exploration.distances[number];
@@ -351,17 +351,17 @@ public final class PetriNet {
 
     public int markingTokens(int number, int place) throws IndexOutOfBoundsException, NoSuchElementException {
         checkPlace(place);
-        checkMarking(number);
+        checkMarking(number, explored().count);
         return exploration.tokensIn(number, place);
     }
 
     public int markingDistance(int number) throws NoSuchElementException {
-        checkMarking(number);
+        checkMarking(number, explored().count);
         return exploration.distances[number];
     }
 
     public int markingTransition(int number) throws NoSuchElementException {
-        checkMarking(number);
+        checkMarking(number, explored().count);
         return exploration.foundBy[number];
     }
 
@@ -631,8 +631,8 @@ public final class PetriNet {
         checkRange(weight, 0, MAX_WEIGHT);
     }
 
-    private void checkMarking(int number) throws NoSuchElementException {
-        if (number < 0 || number >= explored().count) {
+    private static void checkMarking(int number, int count) throws NoSuchElementException {
+        if (number < 0 || number >= count) {
             throw new NoSuchElementException("there is no such reachable marking");
         }
     }
@@ -709,7 +709,7 @@ public final class PetriNet {
         }
 
         int change(int transition, int place) {
-            int i = arc(transition, place);
+            int i = transition * MAX_PLACES + place;
             return outputs[i] - inputs[i];
         }
 
@@ -1166,21 +1166,22 @@ public final class PetriNet {
         private boolean readArcFromPlace(int[] weights) {
             int place = readNumber(0, net.places - 1);
             int transition = place == NONE ? NONE : readNumber(0, net.transitions - 1);
-            return transition != NONE && readWeight(weights, Net.arc(transition, place));
+            int weight = transition == NONE ? NONE : readNumber(0, MAX_WEIGHT);
+            if (weight == NONE) {
+                return false;
+            }
+            weights[Net.arc(transition, place)] = weight;
+            return true;
         }
 
         private boolean readArcFromTransition(int[] weights) {
             int transition = readNumber(0, net.transitions - 1);
             int place = transition == NONE ? NONE : readNumber(0, net.places - 1);
-            return place != NONE && readWeight(weights, Net.arc(transition, place));
-        }
-
-        private boolean readWeight(int[] weights, int arc) {
-            int weight = readNumber(0, MAX_WEIGHT);
+            int weight = place == NONE ? NONE : readNumber(0, MAX_WEIGHT);
             if (weight == NONE) {
                 return false;
             }
-            weights[arc] = weight;
+            weights[Net.arc(transition, place)] = weight;
             return true;
         }
 
@@ -1245,37 +1246,25 @@ public final class PetriNet {
         }
 
         private void readToken() {
-            skipSeparators();
+            while (tokenEnd < length && (text[tokenEnd] == 32 || text[tokenEnd] == 10)) {
+                tokenEnd++;
+            }
             tokenStart = tokenEnd;
             if (tokenStart >= length) {
                 tokenKind = END;
             } else if (isLetter(text[tokenStart])) {
+                while (tokenEnd < length && isLetter(text[tokenEnd])) {
+                    tokenEnd++;
+                }
                 tokenKind = WORD;
-                skipLetters();
             } else if (isDigit(text[tokenStart])) {
-                skipDigits();
+                while (tokenEnd < length && isDigit(text[tokenEnd])) {
+                    tokenEnd++;
+                }
                 tokenKind = tokenEnd - tokenStart > MAX_NUMBER_DIGITS ? BAD : NUMBER;
             } else {
                 tokenKind = text[tokenStart] == ';' ? SEMICOLON : BAD;
                 tokenEnd = tokenStart + 1;
-            }
-        }
-
-        private void skipSeparators() {
-            while (tokenEnd < length && (text[tokenEnd] == 32 || text[tokenEnd] == 10)) {
-                tokenEnd++;
-            }
-        }
-
-        private void skipLetters() {
-            while (tokenEnd < length && isLetter(text[tokenEnd])) {
-                tokenEnd++;
-            }
-        }
-
-        private void skipDigits() {
-            while (tokenEnd < length && isDigit(text[tokenEnd])) {
-                tokenEnd++;
             }
         }
 

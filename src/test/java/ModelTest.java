@@ -441,8 +441,8 @@ public final class ModelTest {
         int heavy = r.below(4);
         for (int i = 0; i < commands; i++) {
             String gap = r.below(10) == 0 ? " \n" : "";
-            int p = r.below(places);
-            int t = r.below(transitions);
+            int p = r.below(60) == 0 ? r.below(11) : r.below(places);
+            int t = r.below(60) == 0 ? r.below(11) : r.below(transitions);
             int weight = r.below(heavy == 0 ? 10 : 3);
             text.append(gap);
             switch (r.below(12)) {

@@ -218,6 +218,10 @@ public final class PromisesTest {
         due(9, () -> x.setInput(0, 0, 0));
         due(9, () -> x.setOutput(0, 1, 0));
         due(9, () -> x.setInhibitor(1, 0, 0));
+        due(0, () -> script(x, "net 2 1;"));
+        due("0 0 0", () -> x.setInput(0, 0, 0) + " " + x.setOutput(0, 1, 0) + " " + x.setInhibitor(1, 0, 0));
+        due(1, () -> script(x, "net 1 1;tokens 0 9;tokens 0 1;in 0 0 9;in 0 0 0;out 0 0 9;out 0 0 0;inhibit 0 0 1;inhibit 0 0 0;"));
+        due("0 0 0", () -> x.setInput(0, 0, 0) + " " + x.setOutput(0, 0, 0) + " " + x.setInhibitor(0, 0, 0));
         // A run stops at its number, or when nothing is enabled, and both are no error.
         due(5, () -> script(x, "net 2 2;tokens 0 5;in 0 0 1;out 0 1 1;in 0 1 1;out 1 1 1;run 3;"));
         due("2,3 0,1", () -> report(x));
@@ -499,6 +503,10 @@ public final class PromisesTest {
         begin(18);
         due(14, x::restoreSnapshot);
         due(later, () -> stateOf(x));
+        script(x, "net 1 1;");
+        due(1, x::markingCount);
+        due(14, x::restoreSnapshot);
+        due(later, () -> stateOf(x));
         x.fire(1);
         type(x, "net");
         due(14, x::restoreSnapshot);
@@ -585,6 +593,13 @@ public final class PromisesTest {
         error("2 at 16", "net 2 10;in 1 9 10;");
         error("0 at -1", "net 2 10;in 1 9 9;out 9 1 9;inhibit 1 9 9;");
         error("2 at 13", "net 2 10;out 10 1 9;");
+        error("2 at 12", "net 2 3;out 3 1 1;");
+        error("2 at 14", "net 2 3;out 2 2 1;");
+        error("2 at 11", "net 2 3;in 2 1 1;");
+        error("2 at 13", "net 2 3;in 1 3 1;");
+        error("2 at 16", "net 2 3;inhibit 2 1 1;");
+        error("2 at 13", "net 2 3;fire 3;");
+        error("0 at -1", "net 2 3;tokens 0 0;in 0 0 0;out 0 0 0;inhibit 0 0 0;");
         error("2 at 15", "net 2 10;out 9 2 9;");
         error("2 at 17", "net 2 10;out 9 1 10;");
         error("2 at 17", "net 2 10;inhibit 2 9 9;");
@@ -616,7 +631,22 @@ public final class PromisesTest {
         error("0 at -1", "net 001 010;tokens 000 030;");
         error("1 at 6", "net 1 t1;");
         error("1 at 0", "netx1 1;");
+        error("1 at 0", "netz 1 1;");
+        error("1 at 0", "neta 1 1;");
+        error("1 at 0", "zet 1 1;");
+        error("1 at 3", "net`1 1;");
+        error("1 at 3", "net{1 1;");
+        error("1 at 5", "net 1/1;");
+        error("1 at 5", "net 1:1;");
         error("1 at 5", "net 1x 1;");
+        // What stood in the buffer behind the end of the text is no part of it.
+        PetriNet cut = new PetriNet();
+        type(cut, "net 1 1;tokensx");
+        cut.truncateInput(14);
+        due("-1: 1 at 14", () -> cut.runScript() + ": " + cut.scriptErrorKind() + " at " + cut.scriptErrorOffset());
+        type(cut, "net 1 1;run 55;");
+        cut.truncateInput(13);
+        due("-1: 1 at 13", () -> cut.runScript() + ": " + cut.scriptErrorKind() + " at " + cut.scriptErrorOffset());
         StringBuilder full = new StringBuilder("net 1 1;");
         while (full.length() < 500) {
             full.append("run 1;");
@@ -941,12 +971,16 @@ public final class PromisesTest {
         begin(45);
         due(3, () -> x.bound(1));
         due(1, () -> x.bound(3));
+        due(0, () -> y.bound(0));
+        due(1, () -> y.bound(2));
+        due(5, () -> made("net 1 1;tokens 0 5;in 0 0 1;").bound(0));
         due(OUT_OF_BOUNDS, () -> x.bound(4));
         due(OUT_OF_BOUNDS, () -> x.bound(-1));
         begin(46);
         due(true, () -> x.canFire(2));
         due(true, () -> x.canFire(0));
         due(false, () -> y.canFire(0));
+        due(true, () -> made("net 1 1;tokens 0 1;in 0 0 1;").canFire(0));
         due(OUT_OF_BOUNDS, () -> x.canFire(4));
         due(OUT_OF_BOUNDS, () -> x.canFire(-1));
         begin(47);
@@ -1032,6 +1066,7 @@ public final class PromisesTest {
         due(255, all::coveredPlaces);
         due(0, none::coveredPlaces);
         due(255, high::coveredPlaces);
+        due(1, made("net 2 1;out 0 1 1;")::coveredPlaces);
     }
 
     private static void promises55And56() {
@@ -1074,12 +1109,14 @@ public final class PromisesTest {
         due(4.0 / 92.0, x::load);
         due(0.0, made("net 2 1;")::load);
         due(1.0, made("net 1 1;capacity 0 7;tokens 0 7;")::load);
+        due(1.0, made("net 1 1;capacity 0 1;tokens 0 1;")::load);
         due(7.0 / 240.0, made("net 8 1;tokens 7 7;")::load);
         begin(58);
         due(3.0f / 4.0f, x::enabledShare);
         due(0.0f, made("net 1 3;in 0 0 1;in 0 1 1;in 0 2 1;")::enabledShare);
         due(2.0f / 3.0f, made("net 1 3;in 0 0 1;")::enabledShare);
         due(1.0f, made("net 1 10;")::enabledShare);
+        due(1.0f, made("net 1 1;")::enabledShare);
         begin(59);
         due(0, x::violations);
         due(0, made("net 8 10;tokens 0 30;tokens 1 30;in 0 0 1;out 0 2 1;in 1 1 1;out 1 3 1;")::violations);
