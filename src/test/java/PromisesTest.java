@@ -1,104 +1,8 @@
-import java.util.Objects;
-
 /** Promise by promise: ordinary calls, the edges that the document names, and wrong arguments. */
-public final class PromisesTest {
-    /** A call whose answer, or the name of the exception that it throws, is looked at. */
-    private interface Call {
-        Object answer();
-    }
-
-    private static final String OUT_OF_BOUNDS = "IndexOutOfBoundsException";
-    private static final String ARGUMENT = "IllegalArgumentException";
-    private static final String STATE = "IllegalStateException";
-    private static final String NO_ELEMENT = "NoSuchElementException";
+public final class PromisesTest extends Checks {
     private static final String FIRST_NET = "net 4 4; capacity 3 2; tokens 0 3; tokens 2 1; in 0 0 1; out 0 1 1; "
         + "in 1 1 1; in 2 1 1; out 1 3 1; in 3 2 1; out 2 0 1; out 2 2 1; in 1 3 2; out 3 0 2; inhibit 3 3 1; "
         + "fire 0; fire 0;";
-
-    private static int wrong = 0;
-    private static int promise = 0;
-    private static int place = 0;
-
-    private static void due(Object want, Call call) {
-        place++;
-        Object got;
-        try {
-            got = call.answer();
-        } catch (RuntimeException e) {
-            got = e.getClass().getSimpleName();
-        }
-        if (!Objects.equals(want, got)) {
-            wrong++;
-            System.out.println("promise " + promise + ", check " + place + ": answered " + got + ", due is " + want);
-        }
-    }
-
-    private static void begin(int number) {
-        promise = number;
-        place = 0;
-    }
-
-    private static int four(String text, int from) {
-        int bytes = 0;
-        for (int i = from; i < from + 4; i++) {
-            bytes = bytes << 8 | (i < text.length() ? text.charAt(i) & 255 : 32);
-        }
-        return bytes;
-    }
-
-    /** Puts just these bytes into the input buffer. */
-    private static void type(PetriNet x, String text) {
-        x.truncateInput(0);
-        for (int i = 0; i < text.length(); i += 20) {
-            x.append(four(text, i), four(text, i + 4), four(text, i + 8), four(text, i + 12), four(text, i + 16));
-        }
-        x.truncateInput(text.length());
-    }
-
-    private static int script(PetriNet x, String text) {
-        type(x, text);
-        return x.runScript();
-    }
-
-    private static PetriNet made(String text) {
-        PetriNet x = new PetriNet();
-        due(true, () -> script(x, text) >= 0);
-        return x;
-    }
-
-    /** Runs a script on a new object and tells its error as "kind at offset". */
-    private static void error(String want, String text) {
-        PetriNet x = new PetriNet();
-        due(want, () -> {
-            script(x, text);
-            return x.scriptErrorKind() + " at " + x.scriptErrorOffset();
-        });
-    }
-
-    private static String report(PetriNet x) {
-        StringBuilder text = new StringBuilder();
-        int length = x.writeMarking();
-        for (int i = 0; i < length; i++) {
-            text.append((char) x.reportByte(i));
-        }
-        return text.toString();
-    }
-
-    /** All that undo and the snapshot restore, as the face shows it. */
-    private static String stateOf(PetriNet x) {
-        StringBuilder text = new StringBuilder();
-        for (int p = 0; p < x.placeCount(); p++) {
-            text.append(x.tokens(p)).append('/').append(x.capacity(p)).append(' ');
-        }
-        for (int t = 0; t < x.transitionCount(); t++) {
-            text.append('[').append(x.firings(t)).append(' ').append(x.inputPlaces(t)).append(' ').append(x.outputPlaces(t));
-            for (int p = 0; p < x.placeCount(); p++) {
-                text.append(' ').append(x.effect(t, p));
-            }
-            text.append(' ').append(x.whyNotEnabled(t)).append(' ').append(x.blockingPlace(t)).append(']');
-        }
-        return text.append(' ').append(x.markingCount()).append(' ').append(x.nextOfRun()).toString();
-    }
 
     private static void promise1() {
         begin(1);
@@ -241,7 +145,7 @@ public final class PromisesTest {
         due(before, () -> stateOf(x));
         due(0, x::undoCount);
         due(-1, x::runScript);
-        due("1 at 0", () -> x.scriptErrorKind() + " at " + x.scriptErrorOffset());
+        due("1 at 0", () -> errorOf(x));
         x.fire(0);
         x.saveSnapshot();
         due(-1, () -> script(x, "net"));
@@ -417,6 +321,7 @@ public final class PromisesTest {
         begin(15);
         PetriNet x = new PetriNet();
         due(-1, x::undo);
+        script(x, "net 2 1;");
         String[] states = new String[13];
         for (int i = 0; i < 13; i++) {
             states[i] = stateOf(x);
@@ -462,7 +367,7 @@ public final class PromisesTest {
         }
         // The input buffer, the script error and the report stay.
         due(5, x::inputLength);
-        due("1 at 8", () -> x.scriptErrorKind() + " at " + x.scriptErrorOffset());
+        due("1 at 8", () -> errorOf(x));
         due(true, () -> x.reportByte(length - 1) >= 0 && x.reportByte(length) == -1);
         due(NO_ELEMENT, x::restoreSnapshot);
         begin(16);
@@ -643,10 +548,10 @@ public final class PromisesTest {
         PetriNet cut = new PetriNet();
         type(cut, "net 1 1;tokensx");
         cut.truncateInput(14);
-        due("-1: 1 at 14", () -> cut.runScript() + ": " + cut.scriptErrorKind() + " at " + cut.scriptErrorOffset());
+        due("-1: 1 at 14", () -> cut.runScript() + ": " + errorOf(cut));
         type(cut, "net 1 1;run 55;");
         cut.truncateInput(13);
-        due("-1: 1 at 13", () -> cut.runScript() + ": " + cut.scriptErrorKind() + " at " + cut.scriptErrorOffset());
+        due("-1: 1 at 13", () -> cut.runScript() + ": " + errorOf(cut));
         StringBuilder full = new StringBuilder("net 1 1;");
         while (full.length() < 500) {
             full.append("run 1;");
@@ -1185,9 +1090,6 @@ public final class PromisesTest {
         promises55And56();
         promises57To59();
         promises60And61();
-        System.out.println(wrong == 0 ? "all answers are as due" : wrong + " answers are not as due");
-        if (wrong != 0) {
-            System.exit(1);
-        }
+        finish();
     }
 }

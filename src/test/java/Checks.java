@@ -1,0 +1,148 @@
+import java.util.Objects;
+
+/** What the tests share: checks that name their promise, and short ways to scripts and to states. */
+abstract class Checks {
+    /** A call whose answer, or the name of the exception that it throws, is looked at. */
+    interface Call {
+        Object answer();
+    }
+
+    static final String OUT_OF_BOUNDS = "IndexOutOfBoundsException";
+    static final String ARGUMENT = "IllegalArgumentException";
+    static final String STATE = "IllegalStateException";
+    static final String NO_ELEMENT = "NoSuchElementException";
+
+    static int wrong = 0;
+    private static int promise = 0;
+    private static String sentence = "";
+    private static int check = 0;
+
+    /** The checks that follow belong to this promise. */
+    static void begin(int number) {
+        begin(number, "");
+    }
+
+    /** The checks that follow belong to this sentence of the promise. */
+    static void begin(int number, String words) {
+        promise = number;
+        sentence = words;
+        check = 0;
+    }
+
+    static Object answerOf(Call call) {
+        try {
+            return call.answer();
+        } catch (RuntimeException e) {
+            return e.getClass().getSimpleName();
+        }
+    }
+
+    static void due(Object want, Call call) {
+        check++;
+        Object got = answerOf(call);
+        if (!Objects.equals(want, got)) {
+            wrong++;
+            System.out.println("promise " + promise + " (" + sentence + "), check " + check + ": answered " + got
+                + ", due is " + want);
+        }
+    }
+
+    static void finish() {
+        System.out.println(wrong == 0 ? "all answers are as due" : wrong + " answers are not as due");
+        if (wrong != 0) {
+            System.exit(1);
+        }
+    }
+
+    static int four(String text, int from) {
+        int bytes = 0;
+        for (int i = from; i < from + 4; i++) {
+            bytes = bytes << 8 | (i < text.length() ? text.charAt(i) & 255 : 32);
+        }
+        return bytes;
+    }
+
+    /** Appends the text, filled up with spaces to full twenties of bytes. */
+    static void append(PetriNet x, String text) {
+        for (int i = 0; i < text.length(); i += 20) {
+            x.append(four(text, i), four(text, i + 4), four(text, i + 8), four(text, i + 12), four(text, i + 16));
+        }
+    }
+
+    /** Puts just these bytes into the input buffer. */
+    static void type(PetriNet x, String text) {
+        x.truncateInput(0);
+        append(x, text);
+        x.truncateInput(text.length());
+    }
+
+    static int script(PetriNet x, String text) {
+        type(x, text);
+        return x.runScript();
+    }
+
+    static PetriNet made(String text) {
+        PetriNet x = new PetriNet();
+        due(true, () -> script(x, text) >= 0);
+        return x;
+    }
+
+    static String errorOf(PetriNet x) {
+        return x.scriptErrorKind() + " at " + x.scriptErrorOffset();
+    }
+
+    /** Runs a script on a new object and tells its error as "kind at offset". */
+    static void error(String want, String text) {
+        PetriNet x = new PetriNet();
+        due(want, () -> {
+            int answer = script(x, text);
+            String got = errorOf(x);
+            boolean fits = (answer == PetriNet.NONE) == !got.equals("0 at -1");
+            return fits ? got : "runScript answered " + answer + ", and " + got;
+        });
+    }
+
+    static String bytesOfReport(PetriNet x, int length) {
+        StringBuilder text = new StringBuilder();
+        for (int i = 0; i < length; i++) {
+            text.append((char) x.reportByte(i));
+        }
+        return text.toString();
+    }
+
+    static String report(PetriNet x) {
+        return bytesOfReport(x, x.writeMarking());
+    }
+
+    /** All that undo and the snapshot restore, as far as calls show it that change nothing. */
+    static String stateOf(PetriNet x) {
+        int places = x.placeCount();
+        int transitions = x.transitionCount();
+        StringBuilder text = new StringBuilder();
+        for (int p = 0; p < places; p++) {
+            text.append(x.tokens(p)).append('/').append(x.capacity(p)).append(' ');
+        }
+        for (int t = 0; t < transitions; t++) {
+            text.append('[').append(x.firings(t)).append(' ').append(x.inputPlaces(t)).append(' ').append(x.outputPlaces(t));
+            for (int p = 0; p < places; p++) {
+                text.append(' ').append(x.effect(t, p));
+            }
+            text.append(' ').append(x.whyNotEnabled(t)).append(' ').append(x.blockingPlace(t)).append(']');
+        }
+        return text.append(' ').append(x.markingCount()).append(' ').append(x.nextOfRun()).toString();
+    }
+
+    /** All weights and limits. They are set to 0 by this. */
+    static String weightsOf(PetriNet x) {
+        int places = x.placeCount();
+        int transitions = x.transitionCount();
+        StringBuilder text = new StringBuilder();
+        for (int t = 0; t < transitions; t++) {
+            for (int p = 0; p < places; p++) {
+                text.append(x.setInput(p, t, 0)).append(' ').append(x.setOutput(t, p, 0)).append(' ');
+                text.append(x.setInhibitor(p, t, 0)).append(", ");
+            }
+        }
+        return text.toString();
+    }
+}
