@@ -14,8 +14,14 @@ public final class EdgesTest extends Checks {
         begin(1, "the net of the script, its two firings counted");
         due("2 0 0 0", () -> x.firings(0) + " " + x.firings(1) + " " + x.firings(2) + " " + x.firings(3));
         due("1,2,1,0 0,1,3", () -> report(x));
+        due("30 30 30 2", () -> x.capacity(0) + " " + x.capacity(1) + " " + x.capacity(2) + " " + x.capacity(3));
         due("1 0 0, 0 1 0, 0 0 0, 0 0 0, 0 0 0, 1 0 0, 1 0 0, 0 1 0, 0 1 0, 0 0 0, 0 1 0, 1 0 0, "
             + "0 2 0, 2 0 0, 0 0 0, 0 0 1, ", () -> weightsOf(x));
+        begin(1, "the markings of a new object, asked for at once");
+        due("7 true 1", () -> {
+            PetriNet y = new PetriNet();
+            return y.markingCount() + " " + y.isComplete() + " " + y.bound(3);
+        });
         begin(1, "an object shares nothing with another one");
         due("1,2,1,0 0,1,3", () -> report(new PetriNet()));
         due(true, () -> weightsOf(new PetriNet()).startsWith("1 0 0, 0 1 0, "));
@@ -469,6 +475,17 @@ public final class EdgesTest extends Checks {
         due("150 true true", () -> x.markingCount() + " " + x.isComplete() + " " + x.returnsHome());
         x.setOutput(3, 2, 1);
         due("150 true false", () -> x.markingCount() + " " + x.isComplete() + " " + x.returnsHome());
+        begin(47, "by the first or by the last transition alone");
+        PetriNet first = made("net 2 10;out 0 1 1;out 9 0 1;in 1 0 1;in 0 9 1;in 1 1 9;in 1 2 9;in 1 3 9;in 1 4 9;in 1 5 9;"
+            + "in 1 6 9;in 1 7 9;in 1 8 9;");
+        due(false, first::returnsHome);
+        first.setInput(1, 0, 0);
+        first.setOutput(0, 1, 0);
+        due(true, first::returnsHome);
+        first.setInput(1, 0, 1);
+        first.setInput(0, 9, 0);
+        first.setOutput(9, 0, 0);
+        due(true, first::returnsHome);
         begin(47, "markings that are not explored lead nowhere");
         x.setOutput(3, 2, 2);
         x.setCapacity(2, 3);
@@ -583,7 +600,8 @@ public final class EdgesTest extends Checks {
         due("-1 1", () -> y.smallestInvariant() + " " + made("net 8 10;").smallestInvariant());
         due("10000001 11111111 10000000", () -> pair.smallestInvariant() + " " + whole.smallestInvariant() + " "
             + last.smallestInvariant());
-        begin(54, "no place, the last place alone, and all places");
+        begin(54, "no place, the first place alone, the last place alone, and all places");
+        due(1, () -> made("net 2 1;out 0 1 1;").coveredPlaces());
         due("0 128 255", () -> y.coveredPlaces() + " " + last.coveredPlaces() + " " + made("net 8 10;").coveredPlaces());
         due("129 255", () -> pair.coveredPlaces() + " " + whole.coveredPlaces());
     }
@@ -601,6 +619,8 @@ public final class EdgesTest extends Checks {
         begin(58, "none, one of ten, and all transitions");
         due(1.0f, empty::enabledShare);
         due(0.0f, one::enabledShare);
+        due(1.0f, () -> made("net 1 1;").enabledShare());
+        due(0.0f, () -> made("net 1 1;in 0 0 1;").enabledShare());
         empty.setInput(0, 1, 1);
         due(9.0f / 10.0f, empty::enabledShare);
         PetriNet tenth = made("net 1 10;in 0 0 1;in 0 1 1;in 0 2 1;in 0 3 1;in 0 4 1;in 0 5 1;in 0 6 1;in 0 7 1;in 0 8 1;");

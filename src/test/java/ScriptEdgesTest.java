@@ -120,6 +120,18 @@ public final class ScriptEdgesTest extends Checks {
         due("0 0 at -1", () -> script(x, scriptOfLength(499)) + " " + errorOf(x));
         due("-1 1 at 499", () -> script(x, scriptOfLength(499) + "?") + " " + errorOf(x));
         due("-1 1 at 500", () -> script(x, scriptOfLength(500).replace("fire 0;", " fire 0")) + " " + errorOf(x));
+        due("-1 1 at 499", () -> script(x, scriptOfLength(499) + "r") + " " + errorOf(x));
+        due("-1 1 at 499", () -> script(x, scriptOfLength(499) + "1") + " " + errorOf(x));
+        due("0 0 at -1", () -> script(x, scriptOfLength(499) + " ") + " " + errorOf(x));
+        begin(5, "bytes behind the end of the text are no part of it");
+        for (String text : new String[] {"net 1 1;tokens", "net 1 1;tokens 0 1", "net 1 1;tokens 0 1;", "net 1 1;run 5 "}) {
+            PetriNet fresh = new PetriNet();
+            for (char behind : new char[] {'s', '1', ';', ' ', '?'}) {
+                type(x, text + behind);
+                x.truncateInput(text.length());
+                due(script(fresh, text) + " " + errorOf(fresh), () -> x.runScript() + " " + errorOf(x));
+            }
+        }
         begin(5, "the number of all tokens: the fewest and the most");
         due(0, () -> script(x, "net 8 10;"));
         StringBuilder full = new StringBuilder("net 8 10;");
@@ -228,6 +240,27 @@ public final class ScriptEdgesTest extends Checks {
             // A letter makes another word of "net"; a digit is the number of places, and then one number is too many.
             String want = letter ? "1 at 0" : b == '0' || b == '9' ? "2 at 3" : digit ? "1 at 7" : "1 at 3";
             error(b == 32 || b == 10 ? "0 at -1" : want, "net" + (char) b + " 1 1;");
+        }
+    }
+
+    /** Words with one letter too many, too few, or another one, at each place of each word of the grammar. */
+    private static void wordsBesideTheGrammar() {
+        begin(20, "a word that the grammar does not know");
+        List<String> tokens = tokensOf(ALL);
+        int offset = 0;
+        for (int i = 0; i < tokens.size(); i++) {
+            String word = tokens.get(i);
+            for (int at = 0; word.length() > 1 && at < word.length(); at++) {
+                String ahead = word.substring(0, at);
+                String behind = word.substring(at + 1);
+                for (String other : new String[] {ahead + behind, ahead + word.charAt(at) + word.charAt(at) + behind,
+                    ahead + 'q' + behind, word + word.charAt(at)}) {
+                    List<String> spoilt = new ArrayList<>(tokens);
+                    spoilt.set(i, other);
+                    error("1 at " + offset, String.join(" ", spoilt));
+                }
+            }
+            offset += word.length() + 1;
         }
     }
 
@@ -388,6 +421,7 @@ public final class ScriptEdgesTest extends Checks {
         everyByteBetweenTokens();
         everyByteInNumbers();
         everyByteInWords();
+        wordsBesideTheGrammar();
         endOfTextEverywhere();
         wrongTokenEverywhere();
         ranges();
