@@ -12,10 +12,85 @@ abstract class Checks {
     static final String STATE = "IllegalStateException";
     static final String NO_ELEMENT = "NoSuchElementException";
 
+    /** The methods of the document, promise by promise: the first one is promise 2. */
+    static final String[] FACE = {
+        "int append(int,int,int,int,int)",
+        "int truncateInput(int) IllegalArgumentException",
+        "int inputLength()",
+        "int runScript()",
+        "int setTokens(int,int) IndexOutOfBoundsException IllegalArgumentException",
+        "int setCapacity(int,int) IndexOutOfBoundsException IllegalArgumentException IllegalStateException",
+        "int setInput(int,int,int) IndexOutOfBoundsException IllegalArgumentException",
+        "int setOutput(int,int,int) IndexOutOfBoundsException IllegalArgumentException",
+        "int setInhibitor(int,int,int) IndexOutOfBoundsException IllegalArgumentException",
+        "int fire(int) IndexOutOfBoundsException IllegalStateException",
+        "int run(int) IllegalArgumentException",
+        "int moveToMarking(int) NoSuchElementException",
+        "int reverseNet()",
+        "int undo()",
+        "int undoCount()",
+        "int saveSnapshot()",
+        "int restoreSnapshot() NoSuchElementException",
+        "int scriptErrorKind()",
+        "int scriptErrorOffset()",
+        "int placeCount()",
+        "int transitionCount()",
+        "int tokens(int) IndexOutOfBoundsException",
+        "int capacity(int) IndexOutOfBoundsException",
+        "int effect(int,int) IndexOutOfBoundsException",
+        "int totalTokens()",
+        "int inputPlaces(int) IndexOutOfBoundsException",
+        "int outputPlaces(int) IndexOutOfBoundsException",
+        "int consumers(int) IndexOutOfBoundsException",
+        "int whyNotEnabled(int) IndexOutOfBoundsException",
+        "int blockingPlace(int) IndexOutOfBoundsException",
+        "int enabledTransitions()",
+        "boolean isDead()",
+        "int firings(int) IndexOutOfBoundsException",
+        "int nextOfRun()",
+        "int firesInRow(int) IndexOutOfBoundsException",
+        "boolean areInConflict(int,int) IndexOutOfBoundsException",
+        "int markingCount()",
+        "boolean isComplete()",
+        "int markingTokens(int,int) IndexOutOfBoundsException NoSuchElementException",
+        "int markingDistance(int) NoSuchElementException",
+        "int markingTransition(int) NoSuchElementException",
+        "int firstDeadMarking()",
+        "int deadMarkings()",
+        "int bound(int) IndexOutOfBoundsException",
+        "boolean canFire(int) IndexOutOfBoundsException",
+        "boolean returnsHome()",
+        "int distanceToEmpty(int) IndexOutOfBoundsException",
+        "boolean isPlaceInvariant(int) IllegalArgumentException",
+        "boolean isTransitionInvariant(int) IllegalArgumentException",
+        "int weightedTokens(int) IllegalArgumentException",
+        "int simpleInvariants()",
+        "int smallestInvariant()",
+        "int coveredPlaces()",
+        "int tokensAfterRun(int,int) IndexOutOfBoundsException IllegalArgumentException",
+        "int runLength()",
+        "double load()",
+        "float enabledShare()",
+        "int violations()",
+        "int writeMarking()",
+        "int reportByte(int)",
+    };
+
     static int wrong = 0;
+    /** The checks since the last begin. */
+    static int check = 0;
     private static int promise = 0;
     private static String sentence = "";
-    private static int check = 0;
+
+    /** The promise that is named after this method, or 0. */
+    static int promiseOf(String method) {
+        for (int i = 0; i < FACE.length; i++) {
+            if (FACE[i].contains(" " + method + "(")) {
+                return i + 2;
+            }
+        }
+        return 0;
+    }
 
     /** The checks that follow belong to this promise. */
     static void begin(int number) {

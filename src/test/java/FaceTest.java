@@ -8,69 +8,6 @@ import java.util.TreeSet;
 
 /** The class has the document's face, and no other member that is not private. */
 public final class FaceTest {
-    private static final String[] FACE = {
-        "int append(int,int,int,int,int)",
-        "int truncateInput(int) IllegalArgumentException",
-        "int inputLength()",
-        "int runScript()",
-        "int setTokens(int,int) IndexOutOfBoundsException IllegalArgumentException",
-        "int setCapacity(int,int) IndexOutOfBoundsException IllegalArgumentException IllegalStateException",
-        "int setInput(int,int,int) IndexOutOfBoundsException IllegalArgumentException",
-        "int setOutput(int,int,int) IndexOutOfBoundsException IllegalArgumentException",
-        "int setInhibitor(int,int,int) IndexOutOfBoundsException IllegalArgumentException",
-        "int fire(int) IndexOutOfBoundsException IllegalStateException",
-        "int run(int) IllegalArgumentException",
-        "int moveToMarking(int) NoSuchElementException",
-        "int reverseNet()",
-        "int undo()",
-        "int undoCount()",
-        "int saveSnapshot()",
-        "int restoreSnapshot() NoSuchElementException",
-        "int scriptErrorKind()",
-        "int scriptErrorOffset()",
-        "int placeCount()",
-        "int transitionCount()",
-        "int tokens(int) IndexOutOfBoundsException",
-        "int capacity(int) IndexOutOfBoundsException",
-        "int effect(int,int) IndexOutOfBoundsException",
-        "int totalTokens()",
-        "int inputPlaces(int) IndexOutOfBoundsException",
-        "int outputPlaces(int) IndexOutOfBoundsException",
-        "int consumers(int) IndexOutOfBoundsException",
-        "int whyNotEnabled(int) IndexOutOfBoundsException",
-        "int blockingPlace(int) IndexOutOfBoundsException",
-        "int enabledTransitions()",
-        "boolean isDead()",
-        "int firings(int) IndexOutOfBoundsException",
-        "int nextOfRun()",
-        "int firesInRow(int) IndexOutOfBoundsException",
-        "boolean areInConflict(int,int) IndexOutOfBoundsException",
-        "int markingCount()",
-        "boolean isComplete()",
-        "int markingTokens(int,int) IndexOutOfBoundsException NoSuchElementException",
-        "int markingDistance(int) NoSuchElementException",
-        "int markingTransition(int) NoSuchElementException",
-        "int firstDeadMarking()",
-        "int deadMarkings()",
-        "int bound(int) IndexOutOfBoundsException",
-        "boolean canFire(int) IndexOutOfBoundsException",
-        "boolean returnsHome()",
-        "int distanceToEmpty(int) IndexOutOfBoundsException",
-        "boolean isPlaceInvariant(int) IllegalArgumentException",
-        "boolean isTransitionInvariant(int) IllegalArgumentException",
-        "int weightedTokens(int) IllegalArgumentException",
-        "int simpleInvariants()",
-        "int smallestInvariant()",
-        "int coveredPlaces()",
-        "int tokensAfterRun(int,int) IndexOutOfBoundsException IllegalArgumentException",
-        "int runLength()",
-        "double load()",
-        "float enabledShare()",
-        "int violations()",
-        "int writeMarking()",
-        "int reportByte(int)",
-    };
-
     private static int wrong = 0;
 
     private static void check(String what, boolean holds) {
@@ -112,11 +49,10 @@ public final class FaceTest {
                 check("own name: " + method, !publicNames.contains(method.getName()));
             }
         }
-        Set<String> due = new TreeSet<>();
-        for (String line : FACE) {
-            due.add(line);
+        for (int i = 0; i < Checks.FACE.length; i++) {
+            check("promise " + (i + 2) + " has the method " + Checks.FACE[i], found.remove(Checks.FACE[i]));
         }
-        check("methods due " + due + "\n but found " + found, due.equals(found));
+        check("no other public method than those of the promises: " + found, found.isEmpty());
     }
 
     private static void checkFields() throws IllegalAccessException {
