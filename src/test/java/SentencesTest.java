@@ -348,6 +348,10 @@ public final class SentencesTest extends Checks {
         term(20, first);
         error("2 at 18", "net 1 1;\n tokens  31 99 ?");
         error("1 at 17", "net 1 1;tokens 0 oops;tokens 5 5;");
+        error("1 at 16", "net 1 1;tokens 0;tokens 5 5;");
+        error("1 at 14", "net 1 1;run 1 run 1;oops");
+        error("1 at 8", "net 1 1;oops;tokens 5 5;");
+        error("1 at 8", "net 1 1 run 1;oops");
         error("3 at 25", "net 1 1;in 0 0 1;fire  \n 0; tokens 9 9;");
         term(19, first);
         error("2 at 4", "net 9 ?;");
