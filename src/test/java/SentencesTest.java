@@ -120,6 +120,7 @@ public final class SentencesTest extends Checks {
         refuses(OUT_OF_BOUNDS, large::firings, -1, 10);
         error("2 at 6", "net 1 0;");
         error("2 at 6", "net 1 11;");
+        largestNet(range);
         String amounts = "A place has a capacity from 1 to 30 and a number of tokens from 0 to its capacity.";
         term(7, amounts);
         due("30 1 30", () -> small.setCapacity(0, 1) + " " + small.setCapacity(0, 30) + " " + small.capacity(0));
@@ -145,6 +146,55 @@ public final class SentencesTest extends Checks {
         due("0 0 0, 4 5 6, 0 0 0, 0 0 0, ", () -> weightsOf(x));
         term(60, "The marking is the sequence of the numbers of tokens of all places.");
         due("5,0,17 0", () -> report(made("net 3 1;tokens 0 5;tokens 2 17;")));
+    }
+
+    /** All that goes through all places or all transitions, where there are 8 and 10 of them. */
+    private static void largestNet(String range) {
+        PetriNet x = made("net 8 10;tokens 7 3;in 7 9 1;inhibit 7 8 3;out 9 0 1;capacity 7 3;");
+        term(30, range);
+        due("0 2", () -> x.whyNotEnabled(9) + " " + x.whyNotEnabled(8));
+        term(31, range);
+        due("-1 7", () -> x.blockingPlace(9) + " " + x.blockingPlace(8));
+        term(32, range);
+        due(1023 - 256, x::enabledTransitions);
+        term(38, range);
+        due("4 true 9", () -> x.markingCount() + " " + x.isComplete() + " " + x.markingTransition(1));
+        term(47, range);
+        due("true 3 0", () -> x.returnsHome() + " " + x.bound(7) + " " + x.distanceToEmpty(0));
+        term(49, range);
+        due("true false", () -> x.isPlaceInvariant(99999999) + " " + x.isPlaceInvariant(90000000));
+        term(50, range);
+        due("true false", () -> x.isTransitionInvariant(111111111) + " " + x.isTransitionInvariant(1111111111));
+        term(51, range);
+        due(27, () -> x.weightedTokens(99999999));
+        term(52, range);
+        due("127 10 255", () -> x.simpleInvariants() + " " + x.smallestInvariant() + " " + x.coveredPlaces());
+        term(60, range);
+        due("0,0,0,0,0,0,0,3 0,1,2,3,4,5,6,7,9", () -> report(x));
+    }
+
+    /** All that goes through all markings, where there are 150 of them and more could be found. */
+    private static void fullExploration() {
+        String end = "The exploration stops when it has 150 markings; it is complete if no further marking would have been found.";
+        // All markings of at most 15 tokens, and 14 of 16 tokens; transition 2 is never enabled.
+        PetriNet x = made("net 2 3;out 0 0 1;out 1 1 1;in 0 2 1;inhibit 0 2 1;");
+        term(40, end);
+        due("16,0 3,13", () -> markingOf(x, 136) + " " + markingOf(x, 149));
+        term(44, end);
+        due("0 -1", () -> x.deadMarkings() + " " + x.firstDeadMarking());
+        term(45, end);
+        due("16 15", () -> x.bound(0) + " " + x.bound(1));
+        term(46, end);
+        due("true false", () -> x.canFire(1) + " " + x.canFire(2));
+        term(47, end);
+        due(false, x::returnsHome);
+        term(48, end);
+        x.setTokens(0, 1);
+        due("-1 0", () -> x.distanceToEmpty(0) + " " + x.distanceToEmpty(1));
+        term(39, end);
+        due(false, x::isComplete);
+        x.setCapacity(1, 3);
+        due("true 120", () -> x.isComplete() + " " + x.markingCount());
     }
 
     private static void termsOfFiring() {
@@ -1172,6 +1222,7 @@ public final class SentencesTest extends Checks {
         termsOfFiring();
         termsOfRuns();
         termsOfMarkings();
+        fullExploration();
         termsOfInvariants();
         termsOfScripts();
         termsOfUndo();
